@@ -31,7 +31,7 @@ public final class TupleMethods {
 
     private final Classes classes = new Classes();
     private final Function[] functions = new Function[MOST_FUNCTIONS];
-    private final Function trial = new Function(classes);
+    private final Function trial = new Function();
     private int functionCount = 0;
     private int ruleNow = 0;
     private int hits = 0;
@@ -50,7 +50,7 @@ public final class TupleMethods {
 
     public TupleMethods() {
         for (int i = 0; i < MOST_FUNCTIONS; i++) {
-            functions[i] = new Function(classes);
+            functions[i] = new Function();
         }
     }
 
@@ -65,7 +65,7 @@ public final class TupleMethods {
             return REFUSED;
         }
         for (int i = 0; i < functionCount; i++) {
-            functions[i].fitClass(number);
+            functions[i].fitClass(number, classes);
         }
         answersOf = NONE;
         return number;
@@ -126,7 +126,7 @@ public final class TupleMethods {
         if (f.hasMethodFor(of)) {
             return TAKEN;
         }
-        f.put(number, of);
+        f.put(number, of, classes);
         f.kinds[number] = kind;
         f.values[number] = value;
         f.forget(number);
@@ -186,7 +186,7 @@ public final class TupleMethods {
             case 1:
                 return f.used;
             case 2:
-                return f.callCount();
+                return callCount(f);
             case 3:
                 return callsAnswered(function, NONE);
             case 4:
@@ -240,7 +240,7 @@ public final class TupleMethods {
             misses++;
         }
         // What was KEPT is not looked up: a METHOD or RULE that could have made it another one has dropped it.
-        return f.firstOf(ruleNow, call, f.thatApply(call));
+        return firstOf(f, call, f.thatApply(call));
     }
 
     public int answer(int function, int call) {
@@ -248,7 +248,7 @@ public final class TupleMethods {
             return NO_CALL;
         }
         Function f = functions[function];
-        return f.firstOf(ruleNow, call, f.thatApply(call));
+        return firstOf(f, call, f.thatApply(call));
     }
 
     public int applicable(int function, int call) {
@@ -314,7 +314,7 @@ public final class TupleMethods {
         if ((atMostBoth & both) != 0) {
             return NONE;
         }
-        int total = f.callCount();
+        int total = callCount(f);
         for (int i = 0, call = 0; i < total; i++, call = classes.callAfter(call)) {
             int set = f.thatApply(call);
             if ((set & both) == both && (set & atMostBoth) == 0) {
@@ -342,11 +342,12 @@ public final class TupleMethods {
         }
         fillAnswers(function);
         trial.copyMethods(f);
-        trial.put(ONE_MORE, of);
+        trial.put(ONE_MORE, of, classes);
         int changed = 0;
-        int total = f.callCount();
+        int total = callCount(f);
         for (int i = 0, call = 0; i < total; i++, call = classes.callAfter(call)) {
-            if (trial.firstOf(ruleNow, call, trial.thatApply(call)) != answers[call]) {
+            int set = trial.thatApply(call);
+            if ((set >> ONE_MORE & 1) != 0 && firstOf(trial, call, set) != answers[call]) {
                 changed++;
             }
         }
@@ -364,14 +365,14 @@ public final class TupleMethods {
         }
         trial.copyMethods(functions[function]);
         int more = 0;
-        int total = trial.callCount();
+        int total = callCount(trial);
         for (int i = 0, call = 0; i < total; i++, call = classes.callAfter(call)) {
             if (trial.leastOf(trial.thatApply(call)) == AMBIGUOUS) {
                 int number = trial.leastFree();
                 if (number == NONE) {
                     return NO_ROOM;
                 }
-                trial.put(number, call);
+                trial.put(number, call, classes);
                 more++;
             }
         }
@@ -416,14 +417,41 @@ public final class TupleMethods {
         return sum;
     }
 
-    // ---- chains
+    // ---- first methods, chains
+
+    /** The FIRST of some METHODS, all APPLICABLE to a CALL, or NONE or AMBIGUOUS. */
+    private int firstOf(Function f, int call, int set) {
+        return ruleNow == 0 ? f.leastOf(set) : foremostOf(f, call, set);
+    }
+
+    /** The FIRST by RULE 1. */
+    private int foremostOf(Function f, int call, int set) {
+        int best = NONE;
+        for (int m = 0; m <= ONE_MORE; m++) {
+            if ((set >> m & 1) != 0 && (best == NONE || comesAhead(call, f.targets[m], f.targets[best]))) {
+                best = m;
+            }
+        }
+        return best;
+    }
+
+    /** Whether a METHOD for the one comes ahead of a METHOD for the other, both APPLICABLE to a CALL. */
+    private boolean comesAhead(int call, int one, int other) {
+        for (int place = 0; place < MOST_PLACES; place++) {
+            if (classAt(one, place) != classAt(other, place)) {
+                int row = MOST_CLASSES * classAt(call, place);
+                return classes.ranks[row + classAt(one, place)] < classes.ranks[row + classAt(other, place)];
+            }
+        }
+        return false;
+    }
 
     /** Lays the CHAIN of a CALL into the links; what is left behind it, as bits. */
     private int layChain(Function f, int call) {
         int rest = f.thatApply(call);
         linkCount = 0;
         for (int i = 0; i < MOST_METHODS; i++) {
-            int next = f.firstOf(ruleNow, call, rest);
+            int next = firstOf(f, call, rest);
             if (next < 0) {
                 break;
             }
@@ -436,14 +464,22 @@ public final class TupleMethods {
 
     // ---- all calls of a function
 
+    private int callCount(Function f) {
+        int product = 1;
+        for (int place = 0; place < f.places; place++) {
+            product *= classes.size;
+        }
+        return product;
+    }
+
     private void fillAnswers(int function) {
         if (answersOf == function) {
             return;
         }
         Function f = functions[function];
-        int total = f.callCount();
+        int total = callCount(f);
         for (int i = 0, call = 0; i < total; i++, call = classes.callAfter(call)) {
-            answers[call] = f.firstOf(ruleNow, call, f.thatApply(call));
+            answers[call] = firstOf(f, call, f.thatApply(call));
         }
         answersOf = function;
     }
@@ -451,7 +487,7 @@ public final class TupleMethods {
     private int callsAnswered(int function, int answer) {
         fillAnswers(function);
         int found = 0;
-        int total = functions[function].callCount();
+        int total = callCount(functions[function]);
         for (int i = 0, call = 0; i < total; i++, call = classes.callAfter(call)) {
             if (answers[call] == answer) {
                 found++;
@@ -462,7 +498,7 @@ public final class TupleMethods {
 
     private int callsTaken(Function f, int method) {
         int found = 0;
-        int total = f.callCount();
+        int total = callCount(f);
         for (int i = 0, call = 0; i < total; i++, call = classes.callAfter(call)) {
             found += f.thatApply(call) >> method & 1;
         }
@@ -471,7 +507,7 @@ public final class TupleMethods {
 
     private int ambiguousCalls(Function f) {
         int found = 0;
-        int total = f.callCount();
+        int total = callCount(f);
         for (int i = 0, call = 0; i < total; i++, call = classes.callAfter(call)) {
             if (f.leastOf(f.thatApply(call)) == AMBIGUOUS) {
                 found++;
@@ -484,7 +520,7 @@ public final class TupleMethods {
         fillAnswers(function);
         Function f = functions[function];
         int idle = f.used;
-        int total = f.callCount();
+        int total = callCount(f);
         for (int i = 0, call = 0; i < total; i++, call = classes.callAfter(call)) {
             if (answers[call] >= 0) {
                 idle &= ~(1 << answers[call]);
@@ -499,7 +535,7 @@ public final class TupleMethods {
      */
     private int greatestMarked(Function f, boolean forGaps, int k) {
         int found = 0;
-        int total = f.callCount();
+        int total = callCount(f);
         for (int i = 0, call = 0; i < total; i++, call = classes.callAfter(call)) {
             boolean below = found > 0 && isBelowCovered(call);
             boolean marked = f.leastOf(f.thatApply(call)) == (forGaps ? NONE : AMBIGUOUS);
@@ -528,7 +564,7 @@ public final class TupleMethods {
         return false;
     }
 
-    // ---- tables (the answers are filled ahead of these)
+    // ---- tables
 
     private int tableSize(int function) {
         fillAnswers(function);
@@ -546,6 +582,7 @@ public final class TupleMethods {
         return product;
     }
 
+    /** The POLE of a CLASS, by the ANSWERS that have been filled for the FUNCTION. */
     private int leastAlike(Function f, int place, int kind) {
         for (int c = 0; c < kind; c++) {
             if (areAlike(f, place, c, kind)) {
@@ -648,7 +685,6 @@ public final class TupleMethods {
             if (!mergeRows(number, count + 1)) {
                 return REFUSED;
             }
-            all[number] = 0;
             for (int i = 0; i < lengths[number]; i++) {
                 int c = lists[MOST_CLASSES * number + i];
                 all[number] |= 1 << c;
@@ -727,31 +763,18 @@ public final class TupleMethods {
 
     /** A FUNCTION: its METHODS, with room for ONE_MORE, and the CALLS that are KEPT. */
     private static final class Function {
-        private final Classes classes;
-        private int places = 1;
+        private int places = 0;
         /** The METHODS that there are, as bits. */
         private int used = 0;
-        private final int[] targets = new int[MOST_METHODS + 1];
-        private final int[] kinds = new int[MOST_METHODS + 1];
-        private final int[] values = new int[MOST_METHODS + 1];
+        private final int[] targets = new int[ONE_MORE + 1];
+        private final int[] kinds = new int[MOST_METHODS];
+        private final int[] values = new int[MOST_METHODS];
         /** By METHOD: those that it is AT MOST, as bits. */
-        private final int[] above = new int[MOST_METHODS + 1];
+        private final int[] above = new int[ONE_MORE + 1];
         /** In the row of each PLACE, by CLASS: the METHODS whose CLASS there it IS, as bits. */
         private final int[] fitting = new int[MOST_PLACES * MOST_CLASSES];
         private final int[] keptCalls = new int[MOST_KEPT];
         private int keptCount = 0;
-
-        Function(Classes classes) {
-            this.classes = classes;
-        }
-
-        int callCount() {
-            int product = 1;
-            for (int place = 0; place < places; place++) {
-                product *= classes.size;
-            }
-            return product;
-        }
 
         /** The METHODS that are APPLICABLE to a CALL, as bits. */
         int thatApply(int call) {
@@ -760,17 +783,12 @@ public final class TupleMethods {
                 & fitting[2 * MOST_CLASSES + classAt(call, 2)];
         }
 
-        /** The FIRST of some METHODS, all APPLICABLE to a CALL, or NONE or AMBIGUOUS. */
-        int firstOf(int rule, int call, int set) {
-            return rule == 0 ? leastOf(set) : foremostOf(call, set);
-        }
-
         /** The FIRST by RULE 0. */
         int leastOf(int set) {
             if (set == 0) {
                 return NONE;
             }
-            for (int m = 0; m <= MOST_METHODS; m++) {
+            for (int m = 0; m <= ONE_MORE; m++) {
                 if ((set >> m & 1) != 0 && (set & ~above[m]) == 0) {
                     return m;
                 }
@@ -778,32 +796,9 @@ public final class TupleMethods {
             return AMBIGUOUS;
         }
 
-        /** The FIRST by RULE 1. */
-        private int foremostOf(int call, int set) {
-            int best = NONE;
-            for (int m = 0; m <= MOST_METHODS; m++) {
-                if ((set >> m & 1) != 0 && (best == NONE || comesAhead(call, m, best))) {
-                    best = m;
-                }
-            }
-            return best;
-        }
-
-        private boolean comesAhead(int call, int method, int other) {
-            for (int place = 0; place < places; place++) {
-                int one = classAt(targets[method], place);
-                int two = classAt(targets[other], place);
-                if (one != two) {
-                    int row = MOST_CLASSES * classAt(call, place);
-                    return classes.ranks[row + one] < classes.ranks[row + two];
-                }
-            }
-            return false;
-        }
-
         int atMostAllOf(int set) {
             int found = 0;
-            for (int m = 0; m <= MOST_METHODS; m++) {
+            for (int m = 0; m < MOST_METHODS; m++) {
                 if ((used >> m & 1) != 0 && (set & ~above[m]) == 0) {
                     found |= 1 << m;
                 }
@@ -812,7 +807,7 @@ public final class TupleMethods {
         }
 
         boolean hasMethodFor(int target) {
-            for (int m = 0; m <= MOST_METHODS; m++) {
+            for (int m = 0; m < MOST_METHODS; m++) {
                 if ((used >> m & 1) != 0 && targets[m] == target) {
                     return true;
                 }
@@ -829,7 +824,7 @@ public final class TupleMethods {
             return NONE;
         }
 
-        void put(int number, int target) {
+        void put(int number, int target, Classes classes) {
             used |= 1 << number;
             targets[number] = target;
             for (int place = 0; place < MOST_PLACES; place++) {
@@ -852,13 +847,13 @@ public final class TupleMethods {
 
         /** A METHOD is AT MOST just those that are APPLICABLE to the CALL that it is for. */
         private void orderMethods() {
-            for (int m = 0; m <= MOST_METHODS; m++) {
+            for (int m = 0; m <= ONE_MORE; m++) {
                 above[m] = (used >> m & 1) != 0 ? thatApply(targets[m]) : 0;
             }
         }
 
         /** A CLASS has come. */
-        void fitClass(int number) {
+        void fitClass(int number, Classes classes) {
             for (int place = 0; place < MOST_PLACES; place++) {
                 int set = 0;
                 for (int m = 0; m < MOST_METHODS; m++) {
