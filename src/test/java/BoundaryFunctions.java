@@ -272,6 +272,8 @@ public final class BoundaryFunctions {
         b.holds("1, with one CLASS", "function(3); of(0, 7) = 1; method(0, 0, 0, 0); of(0, 7) = 1; of(0, 8) = 0");
         b.holds("1, with METHODS for none or all", Setups.line(16), "function(3); of(0, 7) = 1; method(0, 0, 0, 0);"
             + "of(0, 7) = 1");
+        b.holds("with as many CALLS as can be", Setups.one(16, 3), "of(0, 7) = 1; of(0, 8) = 0; rule() = 1;"
+            + "of(0, 7) = 1; of(0, 8) = 0");
         b.holds("by the RULE that there is", Setups.meets(2), "of(0, 7) = 4; rule(); of(0, 7) = 3; rule();"
             + "of(0, 7) = 4");
         b.holds("twelve METHODS at one PLACE", Setups.methods(16, 12), "of(0, 7) = 12; drop(0, 0); of(0, 7) = 12;"

@@ -136,7 +136,7 @@ public final class BoundaryTables {
         b.holds("where another FUNCTION was asked between", Setups.FOUR, "drop(1, 0); pole(0, 0, 1) = 1;"
             + "pole(1, 0, 1) = 0; pole(0, 0, 1) = 1; of(1, 7) = 2; pole(0, 0, 1) = 1; of(0, 7) = 4");
         b.holds("where a FUNCTION of more PLACES was asked between", Setups.SQUARE, "function(1) = 1; of(0, 7) = 4;"
-            + "pole(1, 0, 3) = 0; function(3) = 2; method(2, 0x321, 0, 0) = 0; pole(2, 2, 3) = 3; pole(0, 1, 1) = 0;"
+            + "pole(1, 0, 3) = 0; function(3) = 2; method(2, 0x131, 0, 0) = 0; pole(2, 2, 3) = 1; pole(0, 1, 3) = 2;"
             + "pole(1, 0, 2) = 0; of(0, 7) = 4; of(1, 7) = 1");
         b.leavesNoTrace("asking changes nothing", ASKED, "pole(0, 0, 3) = 1");
         b.sentence("Promise 23", "NONE: there are none such.");
