@@ -38,7 +38,9 @@ public final class FaceRuns {
     public static void main(String[] args) throws IOException {
         face();
         inside();
-        source(Files.readString(Path.of("src/main/java/TupleMethods.java")));
+        String text = Files.readString(Path.of("src/main/java/TupleMethods.java"));
+        asWritten(text, Files.readString(Path.of("../shared/DOC.md")));
+        source(text);
         System.out.println(wrong == 0 ? "the face is as due" : wrong + " things are not as due");
         if (wrong != 0) {
             System.exit(1);
@@ -87,6 +89,10 @@ public final class FaceRuns {
         return s.toString();
     }
 
+    private static boolean isNameOfFace(String name) {
+        return Arrays.stream(FACE).anyMatch(f -> f.contains(" " + name + "("));
+    }
+
     private static void inside() {
         Class<?>[] all = TupleMethods.class.getDeclaredClasses();
         due("at most 11 classes inside", all.length <= 11, true);
@@ -96,8 +102,23 @@ public final class FaceRuns {
             due(c.getName() + " has at most 20 fields", c.getDeclaredFields().length <= 20, true);
             for (Method m : c.getDeclaredMethods()) {
                 due(m + " takes at most seven", m.getParameterCount() <= 7, true);
+                due(m + " has a name of the face", isNameOfFace(m.getName()), false);
             }
         }
+    }
+
+    /** Each line of the document's face stands in the source as it is, a body instead of the semicolon. */
+    private static void asWritten(String text, String document) {
+        Matcher face = Pattern.compile("(?s)## The public face\\s+```java\n(.*?)```").matcher(document);
+        due("a face in the document", face.find(), true);
+        int members = 0;
+        for (String line : face.group(1).split("\n")) {
+            boolean isBare = line.endsWith(";") && line.contains("(");
+            String want = isBare ? line.substring(0, line.length() - 1) + " {" : line;
+            due("in the source: " + want, ("\n" + text).contains("\n" + want + "\n"), true);
+            members += isBare ? 1 : 0;
+        }
+        due("constructors and methods of the face", members, FACE.length + 1);
     }
 
     private static void source(String text) {
